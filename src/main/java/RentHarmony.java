@@ -324,9 +324,9 @@ public final class RentHarmony {
   }
 
   private int bestOfAllRooms(int lodger) {
-    int best = firstRebates[lodger];
+    int best = firstRebateOf(lodger);
     for (int other = 0; other < bids.size(); other++) {
-      int paid = ownBidOf(other) - firstRebates[other];
+      int paid = ownBidOf(other) - firstRebateOf(other);
       best = Math.max(best, bids.of(lodger, giving.roomOf(other)) - paid);
     }
     return best;

@@ -238,6 +238,13 @@ public final class PromisesTest {
     }
     house.bid(0, 1, 0);
     CHECKS.due("6: a rebate falls as well", 0, house.told(0, 4));
+    // 100 + 10 + 0 is the greatest, though lodger 1 bids more for room 0 than lodger 0, who gets it.
+    RentHarmony smallest = house(0, row(100, 0, 0), row(105, 10, 0), row(60, 0, 0));
+    CHECKS.due("6: rebate for the room of lodger 0", 5, smallest.told(1, 4));
+    CHECKS.due("6: no rebate for the room of lodger 0", 0, smallest.told(2, 4));
+    CHECKS.due("6: lodger 0 is envied", 1, smallest.told(1, 5));
+    CHECKS.due("6: lodger 0 is envied", 1, smallest.told(2, 5));
+    CHECKS.due("6: lodger 0 envies nobody", 0, smallest.told(0, 5));
   }
 
   private static void promise7() {
@@ -288,6 +295,9 @@ public final class PromisesTest {
     CHECKS.due("8: rebates of six", 15, six(580).count(3));
     CHECKS.due("8: rebates of six", 21, six(579).count(3));
     CHECKS.due("8: pot of six", -1, six(586).count(4));
+    RentHarmony one = house(4, row(5));
+    CHECKS.due("8: rebates of one", 1, one.count(3));
+    CHECKS.due("8: pot of one", 0, one.count(4));
     RentHarmony left = two(20);
     left.leave(0);
     left.leave(0);
