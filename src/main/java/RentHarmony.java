@@ -118,8 +118,8 @@ public final class RentHarmony {
     for (int a = 0; a < size; a++) {
       chains[a] = 1;
     }
-    // Envy never goes round in a circle (rooms passed on along it would be worth more), so that as many
-    // rounds as there are lodgers find the longest chain.
+    // Envy never goes round in a circle (rooms passed on along it would be worth more), so that a round
+    // for each lodger but one finds the longest chain.
     for (int round = 1; round < size; round++) {
       for (int a = 0; a < size; a++) {
         chains[a] = longestChainFrom(a);
@@ -310,7 +310,7 @@ public final class RentHarmony {
   }
 
   // No circle of lodgers can raise its own rebates (the giving would not have the greatest worth), so that
-  // a rebate comes from a line of different lodgers, and as many rounds as there are lodgers settle all.
+  // a rebate comes from a line of different lodgers, and a round for each lodger but one settles all.
   private void settleFirstRebates() {
     int size = bids.size();
     for (int lodger = 0; lodger < size; lodger++) {
